@@ -395,11 +395,7 @@ public final class ClosureHeap {
             int seen = 0;
             int cases = 0;
             while (cases < TAGS && (cases == 0 || peek() != '}')) {
-                int tag = takeTag();
-                if ((seen >> tag & 1) == 1) {
-                    at--;
-                    refuse();
-                }
+                int tag = takeTagNotIn(seen);
                 seen |= 1 << tag;
                 cases++;
                 Step body = label();
@@ -520,7 +516,7 @@ public final class ClosureHeap {
         }
 
         private Row construction(int depth) {
-            int tag = takeTag();
+            int tag = takeTagNotIn(0);
             int fields = fieldsOf(tag);
             if (fields == 0) {
                 return rowOf(TAG, tag);
@@ -572,13 +568,15 @@ public final class ClosureHeap {
             return c;
         }
 
-        private int takeTag() {
+        /** The bits of seen are the tags that can't stand here. */
+        private int takeTagNotIn(int seen) {
             char c = peek();
-            if (!isConstructor(c)) {
+            int tag = c - 'A';
+            if (!isConstructor(c) || (seen >> tag & 1) == 1) {
                 refuse();
             }
             at++;
-            return c - 'A';
+            return tag;
         }
 
         private void bind(char name) {

@@ -164,5 +164,11 @@ public final class P03CompileTest {
         Check.due("value before it runs", x.value(0), 0);
         Check.due("run", x.run(1), 1);
         Check.due("value", x.value(0), 6);
+        Check.recompile(x, "a=1;1+A");
+        Check.dueThrown("it stops where a is bound", () -> x.run(9), Check.UNSUPPORTED);
+        Check.recompile(x, "(\\x x)1");
+        Check.due("run", x.run(9), 8);
+        Check.due("used", x.used(), 6);
+        Check.due("the old environment holds nothing", x.live(), 0);
     }
 }

@@ -190,5 +190,15 @@ public final class P04PlaceTest {
         x.run(5);
         Check.dueThrown("no text", x::compile, Check.ILLEGAL_ARGUMENT);
         Check.due("no text", x.place(), 0);
+        Check.type(x, "\\x@fy=1)");
+        Check.dueThrown("ill where names are bound", x::compile, Check.ILLEGAL_ARGUMENT);
+        Check.due("ill", x.place(), 7);
+        for (String name : new String[] {"x", "f", "y"}) {
+            Check.type(x, name);
+            Check.dueThrown("no name is bound any more", x::compile, Check.ILLEGAL_ARGUMENT);
+            Check.due("place of " + name, x.place(), 0);
+        }
+        Check.recompile(x, "\\z z");
+        Check.due("no name was bound before z", x.code(2, 1), 0);
     }
 }
