@@ -18,35 +18,40 @@ public final class AnyCallsTest {
     }
 
     private static void object(ClosureHeap x, int words, Programs random) {
-        for (int calls = 0; calls < 512; calls++) {
+        int calls = 0;
+        while (calls < 500) {
             int choice = random.random(40);
             if (choice == 0 && random.random(3) == 0) {
                 String text = random.next().text;
-                for (int i = 0; i < text.length() && calls < 512; i++, calls++) {
+                for (int i = 0; i < text.length() && calls < 500; i++) {
                     x.write(text.charAt(i));
+                    calls++;
                 }
             } else if (choice < 20) {
                 x.write(random.random(30) == 0 ? (char) any(random) : LIKELY.charAt(random.random(LIKELY.length())));
+                calls++;
             } else if (choice < 22) {
-                compile(x);
+                calls += compile(x);
             } else if (choice < 26) {
-                run(x, random.random(6) == 0 ? any(random) : random.random(60));
-            } else {
-                ask(x, words, random);
+                calls += run(x, random.random(6) == 0 ? any(random) : random.random(60));
+            } else if (random.random(4) == 0) {
+                calls += ask(x, words, random);
             }
         }
     }
 
-    private static void compile(ClosureHeap x) {
+    /** This and the next ones answer how many calls they make. */
+    private static int compile(ClosureHeap x) {
         int state = x.state();
         int next = x.next();
         int thrown = Check.thrown(x::compile);
         Check.due("place and exception", x.place() >= 0, thrown == Check.ILLEGAL_ARGUMENT);
         Check.due("state", x.state(), thrown == 0 ? 1 : state);
         Check.due("next", x.next(), thrown == 0 ? 0 : next);
+        return 6;
     }
 
-    private static void run(ClosureHeap x, int n) {
+    private static int run(ClosureHeap x, int n) {
         int state = x.state();
         int thrown = Check.thrown(() -> x.run(n));
         if (n < 0 || n > 500) {
@@ -56,13 +61,14 @@ public final class AnyCallsTest {
         } else {
             Check.due("run(" + n + ")", thrown == Check.UNSUPPORTED, x.state() == 3);
         }
+        return 3;
     }
 
     private static void within(String what, int got, int least, int most) {
         Check.due(what + " is " + got, got >= least && got <= most, true);
     }
 
-    private static void ask(ClosureHeap x, int words, Programs random) {
+    private static int ask(ClosureHeap x, int words, Programs random) {
         within("state", x.state(), 0, 3);
         within("why", x.why(), 0, 3);
         within("place", x.place(), -1, 90);
@@ -74,5 +80,6 @@ public final class AnyCallsTest {
         within("kind", x.kind(any(random)), 0, 3);
         within("value", x.value(any(random)), -1 << 30, (1 << 30) - 1);
         within("code", x.code(any(random), any(random)), -1, 9999);
+        return 12;
     }
 }

@@ -1,4 +1,7 @@
-/** Counts the answers that are not as due, and makes objects with a text or its code. */
+/**
+ * Counts the answers that are not as due, and asks what most tests ask of a text, its code and its run.
+ * The document promises nothing of an object after 512 calls: tests that ask much make new objects.
+ */
 final class Check {
     static final int ILLEGAL_ARGUMENT = 1;
     static final int ILLEGAL_STATE = 2;
@@ -11,6 +14,8 @@ final class Check {
 
     private static int wrong = 0;
     private static int asked = 0;
+    /** The sentence of the document that is tested, told with each wrong answer. */
+    private static String sentence = "";
 
     private Check() {
     }
@@ -19,11 +24,15 @@ final class Check {
         int answer();
     }
 
+    static void sentence(String words) {
+        sentence = "[" + words + "] ";
+    }
+
     static void due(String what, long got, long want) {
         asked++;
         if (got != want) {
             wrong++;
-            System.out.println(what + " answered " + got + ", due is " + want);
+            System.out.println(sentence + what + " answered " + got + ", due is " + want);
         }
     }
 
@@ -35,7 +44,7 @@ final class Check {
         asked++;
         if (!got.equals(want)) {
             wrong++;
-            System.out.println(what + " answered\n  " + got + "\ndue is\n  " + want);
+            System.out.println(sentence + what + " answered\n  " + got + "\ndue is\n  " + want);
         }
     }
 
@@ -90,10 +99,31 @@ final class Check {
         return x;
     }
 
+    /** A new object with the text's code, of which so many instructions are done. */
+    static ClosureHeap after(int instructions, int words, String text) {
+        ClosureHeap x = compiled(words, text);
+        for (int left = instructions; left > 0 && x.state() == 1; left -= 500) {
+            int n = Math.min(500, left);
+            thrown(() -> x.run(n));
+        }
+        return x;
+    }
+
+    /** How many instructions are done until the machine ends or stops, for less than 400. */
+    static int lengthOfRun(int words, String text) {
+        ClosureHeap x = compiled(words, text);
+        int count = 0;
+        while (count < 400 && thrown(() -> x.run(1)) == 0) {
+            count++;
+        }
+        due("the run of " + text + " ends", x.state() > 1, true);
+        return count;
+    }
+
     static String codeOf(ClosureHeap x) {
         StringBuilder row = new StringBuilder();
-        for (int k = 0; x.code(k, 0) != ClosureHeap.NONE; k++) {
-            int kind = x.code(k, 0);
+        int kind = x.code(0, 0);
+        for (int k = 0; k <= 120 && kind != ClosureHeap.NONE; k++) {
             row.append(k == 0 ? "" : " ").append(kind >= 0 && kind < KINDS.length ? KINDS[kind] : "?" + kind);
             int a = x.code(k, 1);
             int b = x.code(k, 2);
@@ -103,6 +133,7 @@ final class Check {
             if (b != 0) {
                 row.append(':').append(b);
             }
+            kind = x.code(k + 1, 0);
         }
         return row.toString();
     }
@@ -114,6 +145,45 @@ final class Check {
             }
         }
         throw new IllegalArgumentException(name);
+    }
+
+    static void code(String text, String want) {
+        ClosureHeap x = new ClosureHeap(100);
+        type(x, text);
+        int[] count = {-1};
+        dueThrown("compile of " + text, () -> count[0] = x.compile(), 0);
+        due("code of " + text, codeOf(x), want);
+        due("instructions of " + text, count[0], want.split(" ").length);
+        due("place of " + text, x.place(), ClosureHeap.NONE);
+        due("state of " + text, x.state(), 1);
+    }
+
+    static void ill(String text, int want) {
+        ClosureHeap x = new ClosureHeap(100);
+        type(x, text);
+        dueThrown("compile of " + text, x::compile, ILLEGAL_ARGUMENT);
+        due("place of " + text, x.place(), want);
+        due("state of " + text, x.state(), 0);
+    }
+
+    static void well(String text) {
+        due("place of " + text, compiled(100, text).place(), ClosureHeap.NONE);
+    }
+
+    static void gives(String text, int kind, int value) {
+        ClosureHeap x = ended(200, text);
+        due("state of " + text, x.state(), 2);
+        due("kind of " + text, x.kind(0), kind);
+        due("value of " + text, x.value(0), value);
+        due("the stack of " + text, x.depth(), 0);
+    }
+
+    static void stops(int words, String text, int why, int next, int depth) {
+        ClosureHeap x = ended(words, text);
+        due("state of " + text, x.state(), 3);
+        due("why of " + text, x.why(), why);
+        due("next of " + text, x.next(), next);
+        due("depth of " + text, x.depth(), depth);
     }
 
     static String repeated(String part, int times) {

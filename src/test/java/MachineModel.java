@@ -27,7 +27,7 @@ final class MachineModel {
     }
 
     private final int words;
-    private final ClosureHeap code;
+    private final int[][] code = new int[120][3];
     private Object accumulator = 0;
     private Object environment = 0;
     private final List<Object> stack = new ArrayList<>();
@@ -37,9 +37,14 @@ final class MachineModel {
     int collections = 0;
     boolean done = false;
 
-    MachineModel(int words, ClosureHeap code) {
+    /** Takes the code from another object than the one that is compared. */
+    MachineModel(int words, ClosureHeap compiled, int count) {
         this.words = words;
-        this.code = code;
+        for (int k = 0; k < count; k++) {
+            for (int what = 0; what < 3; what++) {
+                code[k][what] = compiled.code(k, what);
+            }
+        }
     }
 
     int state() {
@@ -127,9 +132,9 @@ final class MachineModel {
 
     /** Does an instruction; false if it stops. */
     boolean step() {
-        int a = code.code(next, 1);
+        int a = code[next][1];
         int to = next + 1;
-        switch (code.code(next, 0)) {
+        switch (code[next][0]) {
             case 0 -> {
                 done = true;
                 to = next;
@@ -143,7 +148,7 @@ final class MachineModel {
                 stack.add(accumulator);
             }
             case 4, 5, 6, 7, 8 -> {
-                if (!operate(code.code(next, 0))) {
+                if (!operate(code[next][0])) {
                     return stop(1);
                 }
             }
@@ -151,7 +156,7 @@ final class MachineModel {
                 if (!room(3)) {
                     return false;
                 }
-                accumulator = new Block(code.code(next, 0) == 9 ? CLOSURE : SELF, a, environment);
+                accumulator = new Block(code[next][0] == 9 ? CLOSURE : SELF, a, environment);
             }
             case 11 -> to = a;
             case 12 -> {
@@ -244,8 +249,8 @@ final class MachineModel {
     private int chosen(int cases) {
         if (accumulator instanceof Block block && block.kind < 8) {
             for (int i = 1; i <= cases; i++) {
-                if (code.code(next + i, 1) == block.kind) {
-                    return code.code(next + i, 2);
+                if (code[next + i][1] == block.kind) {
+                    return code[next + i][2];
                 }
             }
         }

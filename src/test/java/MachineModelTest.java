@@ -1,6 +1,8 @@
 /** Runs many made programs beside the model, and compares every answer after every instruction. */
 public final class MachineModelTest {
     private static final int PROGRAMS = 3000;
+    /** Runs of one object, whose calls are below 512 then. */
+    private static final int COMPARED = 18;
     private static final String[] WRITTEN = {
         "@ln=?n<1{E:A;A:C(n,l(n-1));};@sx=?x{A:0;Cht:h+s t;};s(l 6)",
         "@ln=?n<1{E:A;A:C(n,l(n-1));};@mx=?x{A:A;Cht:C(h*h,m t);};m(l 5)",
@@ -39,26 +41,33 @@ public final class MachineModelTest {
     }
 
     private static void compare(String text, int words, Programs programs) {
-        ClosureHeap x = Check.compiled(words, text);
-        MachineModel model = new MachineModel(words, x);
+        ClosureHeap other = new ClosureHeap(words);
+        Check.type(other, text);
+        MachineModel model = new MachineModel(words, other, other.compile());
         int steps = 0;
         while (steps < 2500 && model.state() == 1) {
-            int n = 1 + programs.random(programs.random(10) == 0 ? 500 : 3);
-            int count = 0;
-            while (count < n && model.state() == 1 && model.step()) {
-                count++;
+            ClosureHeap x = Check.after(steps, words, text);
+            for (int i = 0; i < COMPARED && model.state() == 1; i++) {
+                steps += compareRun(x, model, 1 + programs.random(programs.random(10) == 0 ? 500 : 3), text);
+                answers(x, model, "words " + words + ", " + text, programs);
             }
-            steps += n;
-            int due = model.state() == 3 ? Check.UNSUPPORTED : 0;
-            int[] got = {-1};
-            Check.dueThrown("run(" + n + ") of " + text, () -> got[0] = x.run(n), due);
-            if (due == 0) {
-                Check.due("run(" + n + ") of " + text, got[0], count);
-            }
-            answers(x, model, "words " + words + ", " + text, programs);
         }
         ends[model.why]++;
         turns += model.collections;
+    }
+
+    private static int compareRun(ClosureHeap x, MachineModel model, int n, String text) {
+        int count = 0;
+        while (count < n && model.state() == 1 && model.step()) {
+            count++;
+        }
+        int due = model.state() == 3 ? Check.UNSUPPORTED : 0;
+        int[] got = {-1};
+        Check.dueThrown("run(" + n + ") of " + text, () -> got[0] = x.run(n), due);
+        if (due == 0) {
+            Check.due("run(" + n + ") of " + text, got[0], count);
+        }
+        return count;
     }
 
     private static void answers(ClosureHeap x, MachineModel model, String text, Programs programs) {

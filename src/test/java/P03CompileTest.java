@@ -10,70 +10,60 @@ public final class P03CompileTest {
         Check.finish();
     }
 
-    private static void code(String text, String want) {
-        ClosureHeap x = new ClosureHeap(100);
-        Check.type(x, text);
-        int count = x.compile();
-        Check.due("code of " + text, Check.codeOf(x), want);
-        Check.due("instructions of " + text, count, want.split(" ").length);
-        Check.due("place of " + text, x.place(), ClosureHeap.NONE);
-        Check.due("state of " + text, x.state(), 1);
-    }
-
     private static void atomsAndOperations() {
-        code("0", "NUMBER HALT");
-        code("0007", "NUMBER:7 HALT");
-        code("9999", "NUMBER:9999 HALT");
-        code("12345", "NUMBER:5 PUSH NUMBER:1234 APPLY HALT");
-        code("123456789", "NUMBER:9 PUSH NUMBER:5678 PUSH NUMBER:1234 APPLY APPLY HALT");
-        code("(1)", "NUMBER:1 HALT");
-        code("(((((1)))))", "NUMBER:1 HALT");
-        code("A", "TAG HALT");
-        code("E", "TAG:4 HALT");
-        code("A(1)", "NUMBER:1 PUSH TAG APPLY HALT");
-        code("B(1)", "NUMBER:1 MAKE:1 HALT");
-        code("C(1,2)", "NUMBER:1 PUSH NUMBER:2 MAKE:2 HALT");
-        code("D(1,2,3)", "NUMBER:1 PUSH NUMBER:2 PUSH NUMBER:3 MAKE:3 HALT");
-        code("F(1)", "NUMBER:1 MAKE:5 HALT");
-        code("G(1,A)", "NUMBER:1 PUSH TAG MAKE:6 HALT");
-        code("H(1,2,E)", "NUMBER:1 PUSH NUMBER:2 PUSH TAG:4 MAKE:7 HALT");
-        code("B(1)2", "NUMBER:2 PUSH NUMBER:1 MAKE:1 APPLY HALT");
-        code("1+2-3", "NUMBER:1 PUSH NUMBER:2 ADD PUSH NUMBER:3 SUBTRACT HALT");
-        code("1-2*3+4", "NUMBER:1 PUSH NUMBER:2 PUSH NUMBER:3 MULTIPLY SUBTRACT PUSH NUMBER:4 ADD HALT");
-        code("2*3*4", "NUMBER:2 PUSH NUMBER:3 MULTIPLY PUSH NUMBER:4 MULTIPLY HALT");
-        code("1<2", "NUMBER:1 PUSH NUMBER:2 LESS HALT");
-        code("1+1~2", "NUMBER:1 PUSH NUMBER:1 ADD PUSH NUMBER:2 SAME HALT");
-        code("(1<2)~3", "NUMBER:1 PUSH NUMBER:2 LESS PUSH NUMBER:3 SAME HALT");
-        code("2*A 3", "NUMBER:2 PUSH NUMBER:3 PUSH TAG APPLY MULTIPLY HALT");
+        Check.code("0", "NUMBER HALT");
+        Check.code("0007", "NUMBER:7 HALT");
+        Check.code("9999", "NUMBER:9999 HALT");
+        Check.code("12345", "NUMBER:5 PUSH NUMBER:1234 APPLY HALT");
+        Check.code("123456789", "NUMBER:9 PUSH NUMBER:5678 PUSH NUMBER:1234 APPLY APPLY HALT");
+        Check.code("(1)", "NUMBER:1 HALT");
+        Check.code("(((((1)))))", "NUMBER:1 HALT");
+        Check.code("A", "TAG HALT");
+        Check.code("E", "TAG:4 HALT");
+        Check.code("A(1)", "NUMBER:1 PUSH TAG APPLY HALT");
+        Check.code("B(1)", "NUMBER:1 MAKE:1 HALT");
+        Check.code("C(1,2)", "NUMBER:1 PUSH NUMBER:2 MAKE:2 HALT");
+        Check.code("D(1,2,3)", "NUMBER:1 PUSH NUMBER:2 PUSH NUMBER:3 MAKE:3 HALT");
+        Check.code("F(1)", "NUMBER:1 MAKE:5 HALT");
+        Check.code("G(1,A)", "NUMBER:1 PUSH TAG MAKE:6 HALT");
+        Check.code("H(1,2,E)", "NUMBER:1 PUSH NUMBER:2 PUSH TAG:4 MAKE:7 HALT");
+        Check.code("B(1)2", "NUMBER:2 PUSH NUMBER:1 MAKE:1 APPLY HALT");
+        Check.code("1+2-3", "NUMBER:1 PUSH NUMBER:2 ADD PUSH NUMBER:3 SUBTRACT HALT");
+        Check.code("1-2*3+4", "NUMBER:1 PUSH NUMBER:2 PUSH NUMBER:3 MULTIPLY SUBTRACT PUSH NUMBER:4 ADD HALT");
+        Check.code("2*3*4", "NUMBER:2 PUSH NUMBER:3 MULTIPLY PUSH NUMBER:4 MULTIPLY HALT");
+        Check.code("1<2", "NUMBER:1 PUSH NUMBER:2 LESS HALT");
+        Check.code("1+1~2", "NUMBER:1 PUSH NUMBER:1 ADD PUSH NUMBER:2 SAME HALT");
+        Check.code("(1<2)~3", "NUMBER:1 PUSH NUMBER:2 LESS PUSH NUMBER:3 SAME HALT");
+        Check.code("2*A 3", "NUMBER:2 PUSH NUMBER:3 PUSH TAG APPLY MULTIPLY HALT");
     }
 
     private static void heads() {
-        code("\\x x", "CLOSURE:2 JUMP:4 ACCESS RETURN HALT");
-        code("\\x\\y x", "CLOSURE:2 JUMP:7 CLOSURE:4 JUMP:6 ACCESS:1 RETURN RETURN HALT");
-        code("\\x\\x x", "CLOSURE:2 JUMP:7 CLOSURE:4 JUMP:6 ACCESS RETURN RETURN HALT");
-        code("x=1;x", "NUMBER:1 BIND ACCESS UNBIND:1 HALT");
-        code("x=1;y=2;x-y", "NUMBER:1 BIND NUMBER:2 BIND ACCESS:1 PUSH ACCESS SUBTRACT UNBIND:1 UNBIND:1 HALT");
-        code("x=1;x=x;x", "NUMBER:1 BIND ACCESS BIND ACCESS UNBIND:1 UNBIND:1 HALT");
-        code("@f x=f x;f", "SELF:2 JUMP:7 ACCESS PUSH ACCESS:1 APPLY RETURN BIND ACCESS UNBIND:1 HALT");
-        code("\\x y=x;y", "CLOSURE:2 JUMP:7 ACCESS BIND ACCESS UNBIND:1 RETURN HALT");
-        code("y=1;\\x@g z=x;y", "NUMBER:1 BIND CLOSURE:4 JUMP:12 SELF:6 JUMP:8 ACCESS:2 RETURN BIND ACCESS:2 UNBIND:1 "
+        Check.code("\\x x", "CLOSURE:2 JUMP:4 ACCESS RETURN HALT");
+        Check.code("\\x\\y x", "CLOSURE:2 JUMP:7 CLOSURE:4 JUMP:6 ACCESS:1 RETURN RETURN HALT");
+        Check.code("\\x\\x x", "CLOSURE:2 JUMP:7 CLOSURE:4 JUMP:6 ACCESS RETURN RETURN HALT");
+        Check.code("x=1;x", "NUMBER:1 BIND ACCESS UNBIND:1 HALT");
+        Check.code("x=1;y=2;x-y", "NUMBER:1 BIND NUMBER:2 BIND ACCESS:1 PUSH ACCESS SUBTRACT UNBIND:1 UNBIND:1 HALT");
+        Check.code("x=1;x=x;x", "NUMBER:1 BIND ACCESS BIND ACCESS UNBIND:1 UNBIND:1 HALT");
+        Check.code("@f x=f x;f", "SELF:2 JUMP:7 ACCESS PUSH ACCESS:1 APPLY RETURN BIND ACCESS UNBIND:1 HALT");
+        Check.code("\\x y=x;y", "CLOSURE:2 JUMP:7 ACCESS BIND ACCESS UNBIND:1 RETURN HALT");
+        Check.code("y=1;\\x@g z=x;y", "NUMBER:1 BIND CLOSURE:4 JUMP:12 SELF:6 JUMP:8 ACCESS:2 RETURN BIND ACCESS:2 UNBIND:1 "
             + "RETURN UNBIND:1 HALT");
-        code("x=y=1;y;x", "NUMBER:1 BIND ACCESS UNBIND:1 BIND ACCESS UNBIND:1 HALT");
-        code("(\\x x)(2)3", "NUMBER:3 PUSH NUMBER:2 PUSH CLOSURE:6 JUMP:8 ACCESS RETURN APPLY APPLY HALT");
-        code("x=1;(x=2;x)+x", "NUMBER:1 BIND NUMBER:2 BIND ACCESS UNBIND:1 PUSH ACCESS ADD UNBIND:1 HALT");
+        Check.code("x=y=1;y;x", "NUMBER:1 BIND ACCESS UNBIND:1 BIND ACCESS UNBIND:1 HALT");
+        Check.code("(\\x x)(2)3", "NUMBER:3 PUSH NUMBER:2 PUSH CLOSURE:6 JUMP:8 ACCESS RETURN APPLY APPLY HALT");
+        Check.code("x=1;(x=2;x)+x", "NUMBER:1 BIND NUMBER:2 BIND ACCESS UNBIND:1 PUSH ACCESS ADD UNBIND:1 HALT");
     }
 
     private static void matches() {
-        code("?1{A:2;}", "NUMBER:1 SWITCH:1 CASE:0:3 NUMBER:2 JUMP:5 HALT");
-        code("?1<2{E:3;A:4;}", "NUMBER:1 PUSH NUMBER:2 LESS SWITCH:2 CASE:4:7 CASE:0:9 NUMBER:3 JUMP:11 NUMBER:4 JUMP:11 "
+        Check.code("?1{A:2;}", "NUMBER:1 SWITCH:1 CASE:0:3 NUMBER:2 JUMP:5 HALT");
+        Check.code("?1<2{E:3;A:4;}", "NUMBER:1 PUSH NUMBER:2 LESS SWITCH:2 CASE:4:7 CASE:0:9 NUMBER:3 JUMP:11 NUMBER:4 JUMP:11 "
             + "HALT");
-        code("?B(1){Bx:x;}", "NUMBER:1 MAKE:1 SWITCH:1 CASE:1:4 OPEN:1 ACCESS UNBIND:1 JUMP:8 HALT");
-        code("?A{Dabc:a;Ha b c:c;A:1;}", "TAG SWITCH:3 CASE:3:5 CASE:7:9 CASE:0:13 OPEN:3 ACCESS:2 UNBIND:3 JUMP:15 OPEN:3 "
+        Check.code("?B(1){Bx:x;}", "NUMBER:1 MAKE:1 SWITCH:1 CASE:1:4 OPEN:1 ACCESS UNBIND:1 JUMP:8 HALT");
+        Check.code("?A{Dabc:a;Ha b c:c;A:1;}", "TAG SWITCH:3 CASE:3:5 CASE:7:9 CASE:0:13 OPEN:3 ACCESS:2 UNBIND:3 JUMP:15 OPEN:3 "
             + "ACCESS UNBIND:3 JUMP:15 NUMBER:1 JUMP:15 HALT");
-        code("x=2;?x{Cxy:x;}", "NUMBER:2 BIND ACCESS SWITCH:1 CASE:2:5 OPEN:2 ACCESS:1 UNBIND:2 JUMP:9 UNBIND:1 HALT");
-        code("\\x?x{A:?x{E:1;};}", "CLOSURE:2 JUMP:12 ACCESS SWITCH:1 CASE:0:5 ACCESS SWITCH:1 CASE:4:8 NUMBER:1 JUMP:10 "
+        Check.code("x=2;?x{Cxy:x;}", "NUMBER:2 BIND ACCESS SWITCH:1 CASE:2:5 OPEN:2 ACCESS:1 UNBIND:2 JUMP:9 UNBIND:1 HALT");
+        Check.code("\\x?x{A:?x{E:1;};}", "CLOSURE:2 JUMP:12 ACCESS SWITCH:1 CASE:0:5 ACCESS SWITCH:1 CASE:4:8 NUMBER:1 JUMP:10 "
             + "JUMP:11 RETURN HALT");
-        code("?A{A:1;Bb:2;Cbc:3;Dbcd:4;E:5;Ff:6;Ghi:7;Hijk:8;}",
+        Check.code("?A{A:1;Bb:2;Cbc:3;Dbcd:4;E:5;Ff:6;Ghi:7;Hijk:8;}",
             "TAG SWITCH:8 CASE:0:10 CASE:1:12 CASE:2:16 CASE:3:20 CASE:4:24 CASE:5:26 CASE:6:30 CASE:7:34 NUMBER:1 JUMP:38 "
             + "OPEN:1 NUMBER:2 UNBIND:1 JUMP:38 OPEN:2 NUMBER:3 UNBIND:2 JUMP:38 OPEN:3 NUMBER:4 UNBIND:3 JUMP:38 "
             + "NUMBER:5 JUMP:38 OPEN:1 NUMBER:6 UNBIND:1 JUMP:38 OPEN:2 NUMBER:7 UNBIND:2 JUMP:38 OPEN:3 NUMBER:8 "
@@ -86,25 +76,15 @@ public final class P03CompileTest {
         Check.due("120 instructions", most.compile(), 120);
         Check.due("the last one", most.code(119, 0), 0);
         Check.due("none behind it", most.code(120, 0), ClosureHeap.NONE);
-        ClosureHeap over = new ClosureHeap(100);
-        Check.type(over, Check.repeated("1 +", 30));
-        Check.dueThrown("ends early", over::compile, Check.ILLEGAL_ARGUMENT);
-        Check.due("place", over.place(), 60);
-        Check.type(over, Check.repeated("1+", 40) + "1");
-        Check.dueThrown("122 instructions", over::compile, Check.ILLEGAL_ARGUMENT);
-        Check.due("place", over.place(), 81);
-        Check.type(over, "B( 1 )+B(1)+" + Check.repeated("1+", 37) + "1");
-        Check.dueThrown("121 instructions", over::compile, Check.ILLEGAL_ARGUMENT);
-        Check.due("place, without blanks", over.place(), 85);
-        Check.type(over, Check.repeated("1+", 44) + "1");
-        Check.dueThrown("134 instructions", over::compile, Check.ILLEGAL_ARGUMENT);
-        Check.due("place", over.place(), 89);
-        Check.type(over, Check.repeated("1+", 44) + ")");
-        Check.dueThrown("many instructions, and a character that can't stand", over::compile, Check.ILLEGAL_ARGUMENT);
-        Check.due("place", over.place(), 88);
-        Check.type(over, "\\x" + Check.repeated("x", 88));
-        Check.dueThrown("267 instructions", over::compile, Check.ILLEGAL_ARGUMENT);
-        Check.due("place", over.place(), 90);
+        Check.ill(Check.repeated("1 +", 30), 60);
+        // 122, 121 and 134 instructions
+        Check.ill(Check.repeated("1+", 40) + "1", 81);
+        Check.ill("B( 1 )+B(1)+" + Check.repeated("1+", 37) + "1", 85);
+        Check.ill(Check.repeated("1+", 44) + "1", 89);
+        // many, but a character can't stand
+        Check.ill(Check.repeated("1+", 44) + ")", 88);
+        // 267, the most that a text can have
+        Check.ill("\\x" + Check.repeated("x", 88), 90);
     }
 
     private static void allStaysIfIll() {

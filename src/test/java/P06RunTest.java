@@ -18,14 +18,6 @@ public final class P06RunTest {
         Check.finish();
     }
 
-    private static void gives(String text, int kind, int value) {
-        ClosureHeap x = Check.ended(200, text);
-        Check.due("state of " + text, x.state(), 2);
-        Check.due("kind of " + text, x.kind(0), kind);
-        Check.due("value of " + text, x.value(0), value);
-        Check.due("the stack of " + text, x.depth(), 0);
-    }
-
     private static void wrongArguments() {
         ClosureHeap x = new ClosureHeap(50);
         for (int n : new int[] {-1, 501, Integer.MIN_VALUE, Integer.MAX_VALUE}) {
@@ -70,140 +62,132 @@ public final class P06RunTest {
     }
 
     private static void arithmetic() {
-        gives("0", INT, 0);
-        gives("9999", INT, 9999);
-        gives("7-9", INT, -2);
-        gives("10-3-2", INT, 5);
-        gives("10-(3-2)", INT, 9);
-        gives("2+3*4", INT, 14);
-        gives("(2+3)*4", INT, 20);
-        gives("(0-3)*4", INT, -12);
-        gives("(0-3)*(0-4)", INT, 12);
-        gives("1024*1024*1024-1", INT, 1073741823);
-        gives("1024*1024*1024", INT, -1073741824);
-        gives("0-1024*1024*1024", INT, -1073741824);
-        gives("1024*1024*1024+1024*1024*1024", INT, 0);
-        gives("0-1024*1024*1024-1", INT, 1073741823);
-        gives("1024*1024*2048", INT, 0);
-        gives("9999*9999*9999", INT, (int) ((9999L * 9999 * 9999 % (1L << 31)) << 33 >> 33));
-        gives("(0-9999)*9999*9999", INT, (int) ((-9999L * 9999 * 9999) << 33 >> 33));
+        Check.gives("0", INT, 0);
+        Check.gives("9999", INT, 9999);
+        Check.gives("7-9", INT, -2);
+        Check.gives("10-3-2", INT, 5);
+        Check.gives("10-(3-2)", INT, 9);
+        Check.gives("2+3*4", INT, 14);
+        Check.gives("(2+3)*4", INT, 20);
+        Check.gives("(0-3)*4", INT, -12);
+        Check.gives("(0-3)*(0-4)", INT, 12);
+        Check.gives("1024*1024*1024-1", INT, 1073741823);
+        Check.gives("1024*1024*1024", INT, -1073741824);
+        Check.gives("0-1024*1024*1024", INT, -1073741824);
+        Check.gives("1024*1024*1024+1024*1024*1024", INT, 0);
+        Check.gives("0-1024*1024*1024-1", INT, 1073741823);
+        Check.gives("1024*1024*2048", INT, 0);
+        Check.gives("9999*9999*9999", INT, (int) ((9999L * 9999 * 9999 % (1L << 31)) << 33 >> 33));
+        Check.gives("(0-9999)*9999*9999", INT, (int) ((-9999L * 9999 * 9999) << 33 >> 33));
     }
 
     private static void comparisons() {
-        gives("1<2", TAGGED, 4);
-        gives("2<2", TAGGED, 0);
-        gives("3<2", TAGGED, 0);
-        gives("0-1<0", TAGGED, 4);
-        gives("0<0-1", TAGGED, 0);
-        gives("1024*1024*1024<1024*1024*1024-1", TAGGED, 4);
-        gives("2~2", TAGGED, 4);
-        gives("2~3", TAGGED, 0);
-        gives("3~2", TAGGED, 0);
-        gives("A", TAGGED, 0);
-        gives("E", TAGGED, 4);
+        Check.gives("1<2", TAGGED, 4);
+        Check.gives("2<2", TAGGED, 0);
+        Check.gives("3<2", TAGGED, 0);
+        Check.gives("0-1<0", TAGGED, 4);
+        Check.gives("0<0-1", TAGGED, 0);
+        Check.gives("1024*1024*1024<1024*1024*1024-1", TAGGED, 4);
+        Check.gives("2~2", TAGGED, 4);
+        Check.gives("2~3", TAGGED, 0);
+        Check.gives("3~2", TAGGED, 0);
+        Check.gives("A", TAGGED, 0);
+        Check.gives("E", TAGGED, 4);
     }
 
     private static void bindingsAndFunctions() {
-        gives("a=3;b=4;c=5;a*100+b*10+c", INT, 345);
-        gives("a=1;a=a+1;a", INT, 2);
-        gives("a=1;(a=2;a)*10+a", INT, 21);
-        gives("(\\x x-1)5", INT, 4);
-        gives("(\\x\\y x-y)(9)4", INT, 5);
-        gives("a=7;f=\\x a-x;a=1;f 2", INT, 5);
-        gives("@fx=?x~0{E:1;A:x*f(x-1);};f 6", INT, 720);
-        gives("@fx=?x<2{E:x;A:f(x-1)+f(x-2);};f 9", INT, 34);
-        gives("@fx=\\y x-y;f(9)(4)", INT, 5);
-        gives("x=2;@fx=x;f 3*10+x", INT, 32);
-        gives("(\\f f(f 3))(\\x x*x)", INT, 81);
-        gives("\\x x", FUNCTION, 2);
-        gives("@fx=x;f", FUNCTION, 2);
-        gives("a=1;\\x a", FUNCTION, 4);
-        gives("k=\\x\\y x;k 1", FUNCTION, 4);
+        Check.gives("a=3;b=4;c=5;a*100+b*10+c", INT, 345);
+        Check.gives("a=1;a=a+1;a", INT, 2);
+        Check.gives("a=1;(a=2;a)*10+a", INT, 21);
+        Check.gives("(\\x x-1)5", INT, 4);
+        Check.gives("(\\x\\y x-y)(9)4", INT, 5);
+        Check.gives("a=7;f=\\x a-x;a=1;f 2", INT, 5);
+        Check.gives("@fx=?x~0{E:1;A:x*f(x-1);};f 6", INT, 720);
+        Check.gives("@fx=?x<2{E:x;A:f(x-1)+f(x-2);};f 9", INT, 34);
+        Check.gives("@fx=\\y x-y;f(9)(4)", INT, 5);
+        Check.gives("x=2;@fx=x;f 3*10+x", INT, 32);
+        Check.gives("(\\f f(f 3))(\\x x*x)", INT, 81);
+        Check.gives("\\x x", FUNCTION, 2);
+        Check.gives("@fx=x;f", FUNCTION, 2);
+        Check.gives("a=1;\\x a", FUNCTION, 4);
+        Check.gives("k=\\x\\y x;k 1", FUNCTION, 4);
     }
 
     private static void blocksAndMatches() {
-        gives("B(1)", TAGGED, 1);
-        gives("C(1,2)", TAGGED, 2);
-        gives("D(1,2,3)", TAGGED, 3);
-        gives("F(1)", TAGGED, 5);
-        gives("G(1,2)", TAGGED, 6);
-        gives("H(1,2,3)", TAGGED, 7);
-        gives("?D(1,2,3){Dabc:a*100+b*10+c;}", INT, 123);
-        gives("?H(1,2,3){Dabc:0;Habc:c*100+b*10+a;}", INT, 321);
-        gives("?G(8,2){Gxy:x-y;Cxy:0;}", INT, 6);
-        gives("?F(8){Bx:1;Fx:x;}", INT, 8);
-        gives("?A{E:1;A:2;}", INT, 2);
-        gives("?E{E:1;A:2;}", INT, 1);
-        gives("?1<2{E:1;A:2;}", INT, 1);
-        gives("?2<1{E:1;A:2;}", INT, 2);
-        gives("a=9;?C(1,2){Cxy:a-y;}", INT, 7);
-        gives("a=9;(?C(1,2){Cxy:x;})+a", INT, 10);
-        gives("?B(C(1,B(5))){Bx:?x{Cyz:?z{Bx:x-y;};};}", INT, 4);
-        gives("@ln=?n<1{E:A;A:C(n,l(n-1));};@sx=?x{A:0;Cht:h+s t;};s(l 6)", INT, 21);
-    }
-
-    private static void stops(int words, String text, int why, int next, int depth) {
-        ClosureHeap x = Check.ended(words, text);
-        Check.due("state of " + text, x.state(), 3);
-        Check.due("why of " + text, x.why(), why);
-        Check.due("next of " + text, x.next(), next);
-        Check.due("depth of " + text, x.depth(), depth);
+        Check.gives("B(1)", TAGGED, 1);
+        Check.gives("C(1,2)", TAGGED, 2);
+        Check.gives("D(1,2,3)", TAGGED, 3);
+        Check.gives("F(1)", TAGGED, 5);
+        Check.gives("G(1,2)", TAGGED, 6);
+        Check.gives("H(1,2,3)", TAGGED, 7);
+        Check.gives("?D(1,2,3){Dabc:a*100+b*10+c;}", INT, 123);
+        Check.gives("?H(1,2,3){Dabc:0;Habc:c*100+b*10+a;}", INT, 321);
+        Check.gives("?G(8,2){Gxy:x-y;Cxy:0;}", INT, 6);
+        Check.gives("?F(8){Bx:1;Fx:x;}", INT, 8);
+        Check.gives("?A{E:1;A:2;}", INT, 2);
+        Check.gives("?E{E:1;A:2;}", INT, 1);
+        Check.gives("?1<2{E:1;A:2;}", INT, 1);
+        Check.gives("?2<1{E:1;A:2;}", INT, 2);
+        Check.gives("a=9;?C(1,2){Cxy:a-y;}", INT, 7);
+        Check.gives("a=9;(?C(1,2){Cxy:x;})+a", INT, 10);
+        Check.gives("?B(C(1,B(5))){Bx:?x{Cyz:?z{Bx:x-y;};};}", INT, 4);
+        Check.gives("@ln=?n<1{E:A;A:C(n,l(n-1));};@sx=?x{A:0;Cht:h+s t;};s(l 6)", INT, 21);
     }
 
     private static void stopsWrong() {
         for (String operation : new String[] {"+", "-", "*", "<", "~"}) {
-            stops(50, "1" + operation + "A", 1, 3, 1);
-            stops(50, "A" + operation + "1", 1, 3, 1);
-            stops(50, "E" + operation + "E", 1, 3, 1);
-            stops(50, "1" + operation + "B(1)", 1, 4, 1);
-            stops(50, "B(1)" + operation + "1", 1, 4, 1);
-            stops(50, "1" + operation + "(\\x x)", 1, 6, 1);
+            Check.stops(50, "1" + operation + "A", 1, 3, 1);
+            Check.stops(50, "A" + operation + "1", 1, 3, 1);
+            Check.stops(50, "E" + operation + "E", 1, 3, 1);
+            Check.stops(50, "1" + operation + "B(1)", 1, 4, 1);
+            Check.stops(50, "B(1)" + operation + "1", 1, 4, 1);
+            Check.stops(50, "1" + operation + "(\\x x)", 1, 6, 1);
         }
-        stops(50, "1(2)", 1, 3, 1);
-        stops(50, "A 2", 1, 3, 1);
-        stops(50, "B(1)2", 1, 4, 1);
-        stops(50, "(\\x x)(1)2", 1, 9, 1);
-        stops(50, "?1{A:1;E:2;}", 1, 1, 0);
-        stops(50, "?0{A:1;}", 1, 1, 0);
-        stops(50, "?(\\x x){A:1;}", 1, 4, 0);
-        stops(50, "?(@fx=x;f){A:1;}", 1, 7, 0);
-        stops(50, "?A{E:1;}", 1, 1, 0);
-        stops(50, "?B(1){Fx:1;A:1;}", 1, 2, 0);
-        stops(50, "?E{A:1;Bx:2;Cxy:3;Dxyz:4;Fx:6;Gxy:7;Hxyz:8;}", 1, 1, 0);
+        Check.stops(50, "1(2)", 1, 3, 1);
+        Check.stops(50, "A 2", 1, 3, 1);
+        Check.stops(50, "B(1)2", 1, 4, 1);
+        Check.stops(50, "(\\x x)(1)2", 1, 9, 1);
+        Check.stops(50, "?1{A:1;E:2;}", 1, 1, 0);
+        Check.stops(50, "?0{A:1;}", 1, 1, 0);
+        Check.stops(50, "?(\\x x){A:1;}", 1, 4, 0);
+        Check.stops(50, "?(@fx=x;f){A:1;}", 1, 7, 0);
+        Check.stops(50, "?A{E:1;}", 1, 1, 0);
+        Check.stops(50, "?B(1){Fx:1;A:1;}", 1, 2, 0);
+        Check.stops(50, "?E{A:1;Bx:2;Cxy:3;Dxyz:4;Fx:6;Gxy:7;Hxyz:8;}", 1, 1, 0);
         // APPLY with 40 words on the stack: WRONG comes before DEEP
-        stops(200, "@fn=?n<1{E:1n;A:f(n-1);};1+f(18)", 1, 12, 40);
+        Check.stops(200, "@fn=?n<1{E:1n;A:f(n-1);};1+f(18)", 1, 12, 40);
     }
 
     private static void stopsDeep() {
         // PUSH with 40 words on the stack
-        stops(200, "@fx=f x;f 0", 3, 3, 40);
+        Check.stops(200, "@fx=f x;f 0", 3, 3, 40);
         // APPLY with 40 words on the stack
-        stops(200, "@fx=f x;1+f 0", 3, 5, 40);
+        Check.stops(200, "@fx=f x;1+f 0", 3, 5, 40);
         // no room for APPLY's blocks either, but DEEP comes before FULL and nothing is collected
         ClosureHeap x = Check.ended(120, "@fx=f x;1+f 0");
         Check.due("why", x.why(), 3);
         Check.due("used", x.used(), 120);
         Check.due("collections", x.collections(), 0);
-        gives("@fx=?x<1{E:0;A:f(x-1);};f(18)", INT, 0);
+        Check.gives("@fx=?x<1{E:0;A:f(x-1);};f(18)", INT, 0);
     }
 
     private static void stopsFull() {
         // BIND
-        stops(20, "a=1;a=1;a=1;a=1;a=1;a=1;a=1;1", 2, 13, 0);
+        Check.stops(20, "a=1;a=1;a=1;a=1;a=1;a=1;a=1;1", 2, 13, 0);
         // CLOSURE
-        stops(20, "a=1;a=1;a=1;a=1;a=1;a=1;\\x 1", 2, 12, 0);
+        Check.stops(20, "a=1;a=1;a=1;a=1;a=1;a=1;\\x 1", 2, 12, 0);
         // SELF
-        stops(20, "a=1;a=1;a=1;a=1;a=1;a=1;@fx=1;1", 2, 12, 0);
+        Check.stops(20, "a=1;a=1;a=1;a=1;a=1;a=1;@fx=1;1", 2, 12, 0);
         // MAKE of four words, of which three would have room
-        stops(21, "a=1;a=1;a=1;a=1;a=1;a=1;D(1,2,3)", 2, 17, 2);
+        Check.stops(21, "a=1;a=1;a=1;a=1;a=1;a=1;D(1,2,3)", 2, 17, 2);
         // OPEN, all of whose blocks must have room: 4 + 9 words behind 9
-        stops(21, "a=1;a=1;a=1;?D(1,2,3){Dxyz:x;}", 2, 14, 0);
+        Check.stops(21, "a=1;a=1;a=1;?D(1,2,3){Dxyz:x;}", 2, 14, 0);
         Check.due("22 words are enough", Check.ended(22, "a=1;a=1;a=1;?D(1,2,3){Dxyz:x;}").state(), 2);
         // APPLY of a CLOSURE: 3 words behind 18
-        stops(20, "a=1;a=1;a=1;a=1;a=1;(\\x x)1", 2, 16, 1);
+        Check.stops(20, "a=1;a=1;a=1;a=1;a=1;(\\x x)1", 2, 16, 1);
         Check.due("21 words are enough", Check.ended(21, "a=1;a=1;a=1;a=1;a=1;(\\x x)1").state(), 2);
         // APPLY of a SELF: 6 words behind 18
-        stops(23, "a=1;a=1;a=1;a=1;@fx=x;f 1", 2, 16, 1);
+        Check.stops(23, "a=1;a=1;a=1;a=1;@fx=x;f 1", 2, 16, 1);
         Check.due("24 words are enough", Check.ended(24, "a=1;a=1;a=1;a=1;@fx=x;f 1").state(), 2);
     }
 

@@ -29,10 +29,10 @@ public final class P12LiveTest {
     }
 
     private static void askingChangesNothing() {
-        String text = "@ln=?n<1{E:A;A:C(n,l(n-1));};@sx=?x{A:0;Cht:h+s t;};s(l 3)";
-        ClosureHeap asked = Check.compiled(80, text);
-        ClosureHeap unasked = Check.compiled(80, text);
-        for (int i = 0; i < 600 && asked.state() == 1; i++) {
+        String text = "a=(\\x x)1;a=(\\x x)2;a=(\\x x)3;a=(\\x x)4;B(a)";
+        ClosureHeap asked = Check.compiled(20, text);
+        ClosureHeap unasked = Check.compiled(20, text);
+        for (int i = Check.lengthOfRun(20, text); i > 0; i--) {
             int live = asked.live();
             Check.due("asked twice", asked.live(), live);
             Check.due("not more than used", live <= asked.used(), true);
@@ -42,7 +42,7 @@ public final class P12LiveTest {
             Check.due("collections", asked.collections(), unasked.collections());
         }
         Check.due("state", asked.state(), 2);
-        Check.due("value", asked.value(0), 6);
-        Check.due("it was collected", asked.collections() > 0, true);
+        Check.due("value", asked.value(1), 4);
+        Check.due("collections", asked.collections(), 2);
     }
 }

@@ -62,19 +62,19 @@ public final class P13CollectionsTest {
     }
 
     private static void manyCollections() {
-        ClosureHeap x = Check.compiled(60, "@fx=x*2;f(f(f 1))+f(f(f 2))+f(f(f 3))+f(f(f 4))+f(f(f 5))");
-        int seen = 0;
+        String text = "@fx=x*2;f(f(f 1))+f(f(f 2))+f(f(f 3))+f(f(f 4))+f(f(f 5))";
         int turns = 0;
-        for (int i = 0; i < 500 && x.state() == 1; i++) {
-            int used = x.used();
-            x.run(1);
+        int used = 0;
+        int all = Check.lengthOfRun(60, text);
+        for (int i = 0; i <= all; i++) {
+            ClosureHeap x = Check.after(i, 60, text);
             turns += x.used() < used ? 1 : 0;
-            seen = x.collections();
+            used = x.used();
+            Check.due("collections after " + i, x.collections(), turns);
         }
-        Check.due("value", x.value(0), 8 * 15);
-        Check.due("collections", seen, turns);
+        Check.due("value", Check.ended(60, text).value(0), 8 * 15);
         // 6 words at first, then 6 for each of 15 calls: 9 calls fill the half, and only the first 6 words are kept
-        Check.due("collections", seen, 1);
+        Check.due("collections", turns, 1);
         Check.due("in a small half", Check.ended(20, "@fx=x*2;f(f(f 1))+f(f(f 2))").collections(), 2);
     }
 
