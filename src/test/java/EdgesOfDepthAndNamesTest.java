@@ -89,6 +89,17 @@ public final class EdgesOfDepthAndNamesTest {
         }
         Check.ill("\\a b", 2);
         Check.ill("\\b a", 2);
+        // what an earlier text bound is bound no more, were it well or ill
+        ClosureHeap x = new ClosureHeap(100);
+        for (String before : new String[] {"\\a a", "a=1;a", "\\a)", "a=1;)", "@ab=1)", "@ba=1)", "?A{Ba:)"}) {
+            Check.type(x, before);
+            Check.thrown(x::compile);
+            Check.type(x, "a");
+            Check.dueThrown("a behind " + before, x::compile, Check.ILLEGAL_ARGUMENT);
+            Check.due("its place", x.place(), 0);
+            Check.recompile(x, "\\z z");
+            Check.due("none was bound behind " + before, x.code(2, 1), 0);
+        }
     }
 
     private static void functionBinds() {

@@ -6,6 +6,8 @@ public final class EdgesOfHeapTest {
 
     public static void main(String[] args) {
         wordsOfBlocks();
+        firstAndLastPlaces();
+        nothingBound();
         exactRoom();
         oneWordShort();
         allBlocksOfAnInstruction();
@@ -18,6 +20,7 @@ public final class EdgesOfHeapTest {
         functionsAreReached();
         bindingsAreReached();
         sharedBlocksAreOne();
+        whatCannotBeReached();
         newBlocksBehind();
         halvesInTurn();
         roomAfterCollection();
@@ -51,6 +54,45 @@ public final class EdgesOfHeapTest {
         Check.due("state of " + text, x.state(), 2);
         Check.due("words of " + text, x.used(), want);
         Check.due("collections of " + text, x.collections(), 0);
+    }
+
+    private static void firstAndLastPlaces() {
+        Check.sentence("a POINTER to a block is 4 times the place of its HEADER");
+        // the first block's pointer is 0, and isn't taken for something else
+        ClosureHeap block = Check.ended(20, "B(7)");
+        Check.due("kind of the first block", block.kind(0), 2);
+        Check.due("its field", block.value(1), 7);
+        Check.due("live", block.live(), 2);
+        Check.gives("(\\x x)7", 1, 7);
+        Check.gives("a=7;a", 1, 7);
+        Check.gives("?B(7){Bx:x;}", 1, 7);
+        Check.gives("@fx=x;f 7", 1, 7);
+        Check.due("the first block on the stack", Check.ended(20, "C(B(7),8)").value(1 + 4), 7);
+        // the last words of a half
+        ClosureHeap last = Check.ended(22, SIX + "D(1,2,3)");
+        Check.due("used", last.used(), 22);
+        Check.due("the last word", last.value(3), 3);
+        Check.due("live", last.live(), 4);
+        // in a collection blocks get other places, the first one again among them
+        ClosureHeap moved = Check.ended(20, "(\\x x)1+(\\x x)1+(\\x x)1+(?B(7){Bx:x;})");
+        Check.due("state", moved.state(), 2);
+        Check.due("collections", moved.collections(), 1);
+        Check.due("value", moved.value(0), 10);
+        Check.due("used: the block and its BINDING", moved.used(), 2 + 3);
+    }
+
+    private static void nothingBound() {
+        Check.sentence("The environment is a pointer to a BINDING, or the INT 0: nothing is bound");
+        ClosureHeap x = Check.ended(20, "\\x x");
+        Check.due("a function where nothing is bound", x.live(), 3);
+        ClosureHeap y = Check.ended(20, "a=B(1);1");
+        Check.due("used", y.used(), 5);
+        Check.due("when all is unbound", y.live(), 0);
+        ClosureHeap z = Check.ended(20, "f=\\x x;a=(\\x x)1;b=(\\x x)1;f 3");
+        Check.due("state", z.state(), 2);
+        Check.due("collections: at b's APPLY, and at f's", z.collections(), 2);
+        Check.due("value", z.value(0), 3);
+        Check.due("nothing is bound in the end", z.live(), 0);
     }
 
     /** Texts whose last block needs so many words in all, none of which can be given up, and the instruction that makes it. */
@@ -248,6 +290,20 @@ public final class EdgesOfHeapTest {
         Check.due("state", y.state(), 2);
         Check.due("it was collected", y.collections() > 0, true);
         Check.due("value", y.value(0), 0);
+    }
+
+    private static void whatCannotBeReached() {
+        Check.sentence("from which what can't be reached any more is collected");
+        // B lay on the stack, and is reached neither from there any more nor from a
+        ClosureHeap x = Check.ended(20, "a=?C(B(5),1){Cxy:y;};b=1;c=1;d=1;1");
+        Check.due("state", x.state(), 2);
+        Check.due("collections", x.collections(), 1);
+        Check.due("used: four names", x.used(), 12);
+        // what was the accumulator, and what was bound
+        ClosureHeap y = Check.ended(20, "a=(b=D(1,2,3);c=\\x b;2);d=(e=B(1);3);a=4;a");
+        Check.due("state", y.state(), 2);
+        Check.due("collections", y.collections(), 1);
+        Check.due("used: a and B when e is bound, then e, d and a", y.used(), 3 + 2 + 3 + 3 + 3);
     }
 
     private static void newBlocksBehind() {
